@@ -91,6 +91,9 @@ public final class BoxesTest {
         x.sheet(3, 2, 5);
         CHECK.due("another sort's place", 1, x.film(3, 90, 1));
         items(x, 3, new int[] {7, -2});
+        x.set(6, 0, 1 << 4 | 1);
+        CHECK.due("size 0", 2, x.film(3, 3, 2));
+        items(x, 3, new int[] {0, -1, 4, 2});
         x.set(6, 0, 0);
         x.set(6, 1, 0);
         CHECK.due("no shoe", 0, x.film(3, 90, 1));
@@ -190,6 +193,10 @@ public final class BoxesTest {
             CHECK.due("chance(0, " + w[0] + ", " + w[1] + ")", -4611686018427387904L, x.chance(0, w[0], w[1]));
         }
         CHECK.due("in thought", 0, x.count(2));
+        HalfASize y = new HalfASize();
+        y.make(0, 10, 1023);
+        CHECK.due("225 of 450", 225, y.drawn(21));
+        chance(y, 21, 1, 1, 1);
     }
 
     private static void chance(HalfASize x, int seed, int n, long above, long below) {

@@ -147,16 +147,19 @@ public final class FeetTest {
     }
 
     private static void sayings() {
-        // What a kind says, the shoe being longer by -6 .. 10, with number 0 and with number 8 (soft ones: 2 more).
+        // What a kind says, the shoe being longer by -6 .. 10, with number 0, with 8 (soft ones: 2 more) and 9 (3 more).
         String make = "-2 -2 -1 -1 -1 0 0 0 0 0 0 1 1 1 1 2 2";
         String pointed = "-2 -2 -1 -1 -1 -1 -1 -1 -1 -1 -1 0 0 0 0 1 1";
         String clog = "-2 -2 -1 -1 -1 0 0 0 0 0 0 0 0 0 0 2 2";
         String soft = "-1 -1 -1 0 0 0 0 0 0 1 1 1 1 2 2 2 2";
+        String softer = "-1 -1 0 0 0 0 0 0 1 1 1 1 2 2 2 2 2";
         String[] without = {make, make, make, pointed, make, clog};
         String[] with = {make, make, soft, pointed, soft, clog};
         for (int kind = 0; kind < 6; kind++) {
             says(kind, 0, without[kind].split(" "));
+            says(kind, 2, without[kind].split(" "));
             says(kind, 8, with[kind].split(" "));
+            says(kind, 9, (kind == 2 || kind == 4 ? softer : with[kind]).split(" "));
         }
         HalfASize x = new HalfASize();
         x.make(0, 9, 0);

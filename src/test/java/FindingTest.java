@@ -32,6 +32,21 @@ public final class FindingTest {
         canBe(x, 3, 2, 4, 0, -1);
         canBe(x, 2, 0, 1, 2, 2);
         canBe(x, 0, -1, -1, 0, -1, 2, 2, 0, -1);
+        // Soft with number 9, run 1: 41 inside, and 3; stretched with number 4, run 0: 42, and 1; pointed: 37 - 2.
+        x.make(2, 910, 0);
+        x.make(4, 409, 0);
+        x.make(3, 209, 0);
+        canBe(x, 6, 40, 45, 48, 0);
+        canBe(x, 3, 46, 48, 48, -1);
+        canBe(x, 51, 49, 99, 48, -2);
+        canBe(x, 4, 36, 39, 48, 1);
+        canBe(x, 36, 0, 35, 48, 2);
+        canBe(x, 6, 39, 44, 68, 0);
+        canBe(x, 4, 27, 30, 88, 0);
+        canBe(x, 27, 0, 26, 88, 1);
+        canBe(x, 9, 31, 39, 88, -1);
+        canBe(x, 0, -1, -1, 88, 2);
+        canBe(x, 3, 42, 44, 28, -1, 28, -1);
     }
 
     private static void canBe(HalfASize x, int many, int least, int greatest, int... rows) {

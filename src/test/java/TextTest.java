@@ -82,11 +82,11 @@ public final class TextTest {
     /** Each text has its fault at the place of the sign ^, which is left out. */
     private static void faults() {
         String[] texts = {
-            "^", "  ^", "^rubs 1;", "^swell 1;", "^swellss 1;", "^SWELLS 1;", "^1", "^;", "swells^", "swells ^;",
+            "^", "  ^", "^rubs 1;", "^swell 1;", "^xwells 1;", "^swellss 1;", "^SWELLS 1;", "^1", "^;", "swells^", "swells ^;",
             "swells 1^", "swells 1 ^rubs 2;", "swells 1;^price 2;", "swells 1;rubs 2;^", "swells 1;rubs 2; ^swells 3;",
             "swells 1;rubs 2;price 3^", "swells 1;rubs 2;price 3 \n^", "swells 1;rubs 2;price 3;^;",
             "swells 1;rubs 2;price 3; ^swells", "swells 1;rubs 2;price 3;^\t", "swells ^12345;", "swells 1 + ^00001;",
-            "swells 1 ^2;", "swells 12^hour;", "swells size ^make;", "swells ^sizes;", "swells ^rubs;", "swells 1 ^not 2;",
+            "swells 1 ^2;", "swells 12^hour;", "swells size ^make;", "swells ^sizes;", "swells ^hize;", "swells ^four;", "swells ^bot 1;", "swells ^siz;", "swells ^hou;", "swells ^numbers;", "swells 1 ^xr 1;", "swells ^rubs;", "swells 1 ^not 2;",
             "swells 1 + ^not 2;", "swells not ^or 1;", "swells 1 < ^not 2;", "swells 1 < 2 ^< 3;", "swells 1 = 2 ^= 3;",
             "swells 1 = 2 ^< 3;", "swells not 1 < 2 ^= 3;", "swells 1 <^= 3;", "swells ^* 2;", "swells 2 *^* 2;", "swells ^+ 2;",
             "swells 2 + ^+ 2;", "swells -^+ 2;", "swells (^);", "swells (1^;", "swells (1 ^2);", "swells 1^);", "swells (1)^(2);",
@@ -205,7 +205,7 @@ public final class TextTest {
             CHECK.due("rubs " + r[0], Integer.parseInt(r[1]), x.pair(1));
         }
         // The pair is size 0; left wants 0, right 1: worth is 1 and the first price less half of both.
-        String[][] prices = {{"100 - 100*size", "51"}, {"99 - 99*size", "51"}, {"- 5 - size", "1"}, {"98 - 98*size", "50"}, {"size*98", "-48"}};
+        String[][] prices = {{"100 - 100*size", "51"}, {"99 - 99*size", "51"}, {"200 - 199*size", "50"}, {"- 5 - size", "1"}, {"(foot + apart)*50*(size=0)", "1"}, {"98 - 98*size", "50"}, {"size*98", "-48"}};
         for (String[] p : prices) {
             HalfASize x = new HalfASize();
             x.make(0, 9, 3);

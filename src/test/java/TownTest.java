@@ -32,6 +32,10 @@ public final class TownTest {
         CHECK.due("all but 31", 20, x.served(-1));
         x.set(2, 0, 20);
         CHECK.due("the hour does not matter", 20, x.served(-1));
+        x.set(3, 0, 7);
+        x.set(6, 0, 1);
+        CHECK.due("size 0 fits foot 0", 7, x.served(0));
+        CHECK.due("size 0 fits foot 0", 27, x.served(-1));
         CHECK.due("served(-2)", -2, x.served(-2));
         CHECK.due("served(3)", -2, x.served(3));
         CHECK.due("served(MAX)", -2, x.served(Integer.MAX_VALUE));
@@ -66,6 +70,10 @@ public final class TownTest {
         x.set(3, 45, 6);
         order(x, 0, 1, 1 << 9, 16);
         order(x, 0, 2, 1 << 8 | 1 << 9, 22);
+        // Of two that share a foot, the last that the smaller one alone fits.
+        x.set(3, 37, 0);
+        x.set(3, 40, 4);
+        order(x, 0, 2, 1 << 8 | 1 << 9, 21);
         order(x, 0, 0, 0, 0);
         int[][] wrong = {{-1, 0, 0}, {1, 0, 0}, {0, -1, 0}, {0, 4, 0}, {0, 0, -1}, {0, 0, 2}, {Integer.MAX_VALUE, 1, 1}};
         for (int[] w : wrong) {
@@ -117,6 +125,12 @@ public final class TownTest {
         x.set(3, 42, 5);
         CHECK.due("two feet", 9, x.missing(0));
         CHECK.due("the one that more have", 42, x.missing(1));
+        x.set(3, 0, 6);
+        CHECK.due("foot 0", 15, x.missing(0));
+        CHECK.due("foot 0", 0, x.missing(1));
+        x.set(6, 0, 1 | 1 << 8);
+        CHECK.due("size 0", 9, x.missing(0));
+        CHECK.due("size 0", 42, x.missing(1));
         CHECK.due("missing(-1)", -2, x.missing(-1));
         CHECK.due("missing(2)", -2, x.missing(2));
     }
