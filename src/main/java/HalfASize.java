@@ -11,6 +11,8 @@ public final class HalfASize {
     private static final int FEET = 100, MAKES = 5, SIZES = 20, ALL_SIZES = 0xFFFFF;
     private static final int TEXTS = 6, TAPE = 160, SHEETS = 4, CELLS = 40;
     private static final int MOST_GOES = 20, MOST_SEEDS = 20, MOST_ROWS = 20;
+    // Of twenty sizes there are that many sets of three, and fewer of less.
+    private static final int MOST_SETS = 1140;
     private static final int GREATEST_FOOT = 99, GREATEST_SWELLING = 20, GREATEST_RUB = 99, GREATEST_PRICE = 99;
 
     // Least and greatest of what set() sets, by its what.
@@ -48,7 +50,7 @@ public final class HalfASize {
     private static final int LETTER = 0, DIGIT = 1, BLANK = 2, OTHER = 3;
 
     // Levels of an expression, the loosest first.
-    private static final int EITHER = 0, NEGATION = 2, ONE = 5;
+    private static final int EITHER = 0, BOTH = 1, NEGATION = 2, SUM = 3, TERM = 4;
 
     private final State now = new State();
     private final State kept = new State();
@@ -371,7 +373,11 @@ public final class HalfASize {
             return BAD;
         }
         first.clear();
-        offerSets(make * SIZES, n, SIZES, 0, 0, FEET);
+        int set = (1 << n) - 1;
+        for (int i = 0; i < MOST_SETS && set <= ALL_SIZES; i++) {
+            first.offer(set, -servedBySet(make, set));
+            set = nextSet(set);
+        }
         return what == 0 ? first.what : -first.measure;
     }
 
@@ -419,19 +425,32 @@ public final class HalfASize {
     }
 
     /**
-     * Offers every set that has n more sizes, all below one, the least as bits first. A smaller size fits no
-     * longer foot than a greater one, so of its feet just those below the least that is served already are new.
+     * A smaller size fits no longer foot than a greater one: from the greatest size down, of the feet that a size
+     * fits just those below the least that is served already are new.
      */
-    private void offerSets(int shoe, int n, int below, int set, int served, int servedFrom) {
-        if (n <= 0) {
-            first.offer(set, -served);
-            return;
+    private int servedBySet(int make, int set) {
+        int served = 0;
+        int servedFrom = FEET;
+        for (int size = SIZES - 1; size >= 0; size--) {
+            if ((set >> size & 1) == 1) {
+                int shoe = make * SIZES + size;
+                int least = now.leastFitted(shoe);
+                served += now.peopleOf(least, Math.min(now.greatestFitted(shoe), servedFrom - 1));
+                servedFrom = Math.min(servedFrom, least);
+            }
         }
-        for (int size = n - 1; size < below; size++) {
-            int least = now.leastFitted(shoe + size);
-            int more = now.peopleOf(least, Math.min(now.greatestFitted(shoe + size), servedFrom - 1));
-            offerSets(shoe, n - 1, size, set | 1 << size, served + more, Math.min(least, servedFrom));
+        return served;
+    }
+
+    /** The next greater bits of which as many are set; beyond all sizes, if none are. */
+    private static int nextSet(int set) {
+        if (set <= 0) {
+            return ALL_SIZES + 1;
         }
+        // The lowest bit that can go up does, and the bits below it go down as far as they can.
+        int lowest = set & -set;
+        int raised = set + lowest;
+        return raised | ((set ^ raised) >> (2 + Integer.numberOfTrailingZeros(set)));
     }
 
     // ---- boxes
@@ -674,8 +693,19 @@ public final class HalfASize {
             return said;
         }
 
-        static int bound(int kind, int answer) {
+        private static int bound(int kind, int answer) {
             return BOUNDS[4 * kind + answer + 1];
+        }
+
+        /** The greatest foot of which a shoe that seems so long says this or more; -1: there is none. */
+        static int reach(int kind, int seeming, int answer) {
+            if (answer <= -2) {
+                return GREATEST_FOOT;
+            }
+            if (answer > 2) {
+                return -1;
+            }
+            return Math.max(-1, Math.min(GREATEST_FOOT, seeming - bound(kind, answer)));
         }
 
         static boolean isUnder(int kind, int other) {
@@ -751,17 +781,14 @@ public final class HalfASize {
             return Kinds.says(kind[make], number[make], lengthOf(shoe) - foot);
         }
 
-        /** The greatest foot of which a shoe says this or more; -1: there is none. */
-        int reach(int shoe, int answer) {
-            if (answer <= -2) {
-                return GREATEST_FOOT;
-            }
-            if (answer > 2) {
-                return -1;
-            }
+        /** How long a shoe seems to a foot in it. */
+        int seeming(int shoe) {
             int make = shoe / SIZES;
-            int seeming = lengthOf(shoe) + Kinds.giving(kind[make], number[make]);
-            return Math.max(-1, Math.min(GREATEST_FOOT, seeming - Kinds.bound(kind[make], answer)));
+            return lengthOf(shoe) + Kinds.giving(kind[make], number[make]);
+        }
+
+        int reach(int shoe, int answer) {
+            return Kinds.reach(kind[shoe / SIZES], seeming(shoe), answer);
         }
 
         int leastFitted(int shoe) {
@@ -807,10 +834,12 @@ public final class HalfASize {
 
         /** Of how many feet a shoe says what it says of most. */
         int mostAlike(State state, int shoe) {
+            int kind = state.kind[shoe / SIZES];
+            int seeming = state.seeming(shoe);
             int most = 0;
             int counted = least - 1;
             for (int answer = 2; answer >= -2; answer--) {
-                int till = Math.min(greatest, state.reach(shoe, answer));
+                int till = Math.min(greatest, Kinds.reach(kind, seeming, answer));
                 most = Math.max(most, till - counted);
                 counted = Math.max(counted, till);
             }
@@ -1050,35 +1079,37 @@ public final class HalfASize {
         private static int levelOf(int token) {
             switch (token) {
                 case OR: return EITHER;
-                case AND: return 1;
+                case AND: return BOTH;
                 case LESS: case SAME: return NEGATION;
-                case PLUS: case MINUS: return 3;
-                case TIMES: return 4;
+                case PLUS: case MINUS: return SUM;
+                case TIMES: return TERM;
                 default: return NONE;
             }
         }
 
         /** Where this answers false, the token that can't stand there is the one that is read next. */
         private boolean expression(int level, int open) {
-            if (level >= ONE) {
-                return one(open);
-            }
             if (level == NEGATION && tokens[here] == NOT) {
-                return prefixed(NOT, NEGATION, open);
+                return prefixed(NOT, BOTH, open);
             }
-            if (!expression(level + 1, open)) {
+            if (!operand(level, open)) {
                 return false;
             }
             int most = level == NEGATION ? 1 : TAPE;
             for (int n = 0; n < most && levelOf(tokens[here]) == level; n++) {
                 int sign = tokens[here];
                 here++;
-                if (!expression(level + 1, open)) {
+                if (!operand(level, open)) {
                     return false;
                 }
                 write(sign);
             }
             return true;
+        }
+
+        /** What stands beside the signs of a level. */
+        private boolean operand(int level, int open) {
+            return level >= TERM ? one(open) : expression(level + 1, open);
         }
 
         private boolean one(int open) {
@@ -1089,7 +1120,7 @@ public final class HalfASize {
                 return true;
             }
             if (token == MINUS) {
-                return prefixed(NEGATED, ONE, open);
+                return prefixed(NEGATED, TERM, open);
             }
             if (token != OPEN || open >= MOST_OPEN) {
                 return false;
@@ -1103,7 +1134,7 @@ public final class HalfASize {
                 return false;
             }
             here++;
-            if (!expression(level, open + 1)) {
+            if (!operand(level, open + 1)) {
                 return false;
             }
             write(step);
