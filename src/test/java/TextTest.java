@@ -13,6 +13,7 @@ public final class TextTest {
         names();
         bounds();
         wrapping();
+        nothingLeftOver();
         CHECK.end();
     }
 
@@ -212,6 +213,18 @@ public final class TextTest {
             Check.read(x, "swells 0;rubs (size=0)*(foot=1) + (size=1)*(foot=0);price " + p[0] + ";");
             x.force(1);
             CHECK.due("price " + p[0], Integer.parseInt(p[1]), x.pair(5));
+        }
+    }
+
+    /** A text that follows a longer one, good or faulty, has nothing of it behind its last part. */
+    private static void nothingLeftOver() {
+        String rubs = "swells 0;rubs (size=0)*(foot=1) + (size=1)*(foot=0);price ";
+        for (String earlier : new String[] {"not 50;", "-50;", "not 50", "50*2;", "50+7;"}) {
+            HalfASize x = new HalfASize();
+            x.make(0, 9, 3);
+            Check.read(x, rubs + earlier);
+            x.force(Check.read(x, rubs + "size;"));
+            CHECK.due("size 0 costs 0, size 1 costs 1, behind " + earlier, 1, x.pair(5));
         }
     }
 

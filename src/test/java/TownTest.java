@@ -75,6 +75,14 @@ public final class TownTest {
         x.set(3, 40, 4);
         order(x, 0, 2, 1 << 8 | 1 << 9, 21);
         order(x, 0, 0, 0, 0);
+        // The last of all sets of three: 83, 88 and 94 have one size each.
+        HalfASize y = new HalfASize();
+        y.make(0, 9, 0);
+        y.set(3, 83, 1);
+        y.set(3, 88, 1);
+        y.set(3, 94, 1);
+        order(y, 0, 3, 1 << 17 | 1 << 18 | 1 << 19, 3);
+        order(y, 0, 2, 1 << 17 | 1 << 18, 2);
         int[][] wrong = {{-1, 0, 0}, {1, 0, 0}, {0, -1, 0}, {0, 4, 0}, {0, 0, -1}, {0, 0, 2}, {Integer.MAX_VALUE, 1, 1}};
         for (int[] w : wrong) {
             CHECK.due("order(" + w[0] + ", " + w[1] + ", " + w[2] + ")", -2, x.order(w[0], w[1], w[2]));
