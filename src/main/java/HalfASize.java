@@ -14,6 +14,9 @@ public final class HalfASize {
     // Of twenty sizes there are that many sets of three, and fewer of less.
     private static final int MOST_SETS = 1140;
     private static final int GREATEST_FOOT = 99, GREATEST_SWELLING = 20, GREATEST_RUB = 99, GREATEST_PRICE = 99;
+    private static final int MOST_PEOPLE = 9, GREATEST_NUMBER = 9, GREATEST_RUN = 9, RUNS = 19;
+    // Above all measures by which things are chosen.
+    private static final int ABOVE_ALL = 1000000;
 
     // Least and greatest of what set() sets, by its what.
     private static final int[] LOW = {0, 0, 0, 0, 0, -9, 0};
@@ -93,7 +96,10 @@ public final class HalfASize {
     }
 
     public int make(int kind, int what, int stock) {
-        if (kind < 0 || kind >= KINDS || what < 0 || what / 100 > 9 || what % 100 > 18 || stock < 0 || stock > ALL_SIZES) {
+        if (kind < 0 || kind >= KINDS || stock < 0 || stock > ALL_SIZES) {
+            return BAD;
+        }
+        if (what < 0 || what / 100 > GREATEST_NUMBER || what % 100 >= RUNS) {
             return BAD;
         }
         if (now.makes >= MAKES) {
@@ -102,7 +108,7 @@ public final class HalfASize {
         int make = now.makes;
         now.kind[make] = kind;
         now.number[make] = what / 100;
-        now.run[make] = what % 100 - 9;
+        now.run[make] = what % 100 - GREATEST_RUN;
         now.stock[make] = stock;
         now.makes = make + 1;
         return make;
@@ -464,9 +470,9 @@ public final class HalfASize {
             return refusal;
         }
         int bits = 0;
-        for (int i = 0; i < (what == 0 ? 19 : KINDS); i++) {
+        for (int i = 0; i < (what == 0 ? RUNS : KINDS); i++) {
             int kind = what == 0 ? now.kind[make] : i;
-            int run = what == 0 ? i - 9 : now.run[make];
+            int run = what == 0 ? i - GREATEST_RUN : now.run[make];
             if (rowsHold(sheet, make, foot, kind, run)) {
                 bits |= 1 << i;
             }
@@ -640,7 +646,7 @@ public final class HalfASize {
             }
             int foot = sheets.cells[sheet][from + 2 * row];
             int having = sheets.cells[sheet][from + 2 * row + 1];
-            if (isFoot(foot) && having >= LOW[3] && having <= HIGH[3]) {
+            if (isFoot(foot) && having >= 0 && having <= MOST_PEOPLE) {
                 now.having[foot] = having;
                 became++;
             }
@@ -854,7 +860,7 @@ public final class HalfASize {
 
         void clear() {
             what = NONE;
-            measure = Integer.MAX_VALUE;
+            measure = ABOVE_ALL;
         }
 
         void offer(int other, int itsMeasure) {
